@@ -144,6 +144,12 @@ public final class CommandsTest {
         CHECKS.equal("undo and saving leave the buffer", x.feed('i'), 2);
         CHECKS.equal("it goes on", Checks.execute(x, "ll"), 1);
         CHECKS.equal("nothing is left", Checks.outcome(x::execute), MALFORMED);
+        Checks.execute(x, "fi");
+        CHECKS.equal("a shorter text ends where it ends", x.errorPosition(), 2);
+        Checks.execute(x, "turn 0*1;fill");
+        CHECKS.equal("one command", Checks.execute(x, "turn 0*2"), 1);
+        Checks.execute(x, "take 12");
+        CHECKS.equal("one digit", Checks.execute(x, "take 1"), 1);
     }
 
     private static void malformed(String text, int position) {
@@ -154,6 +160,7 @@ public final class CommandsTest {
 
     private static void promise50Positions() {
         malformed("", 0);
+        malformed("fill;fill;fill;fill;fill;fill;fill;fill;fill;fill;fill;fill;", 60);
         malformed(";", 0);
         malformed(" fill", 0);
         malformed("fill ", 4);

@@ -65,6 +65,8 @@ public final class GridTest {
         CHECKS.equal("colour b", x.colourMask('b'), 1L << 28);
         CHECKS.equal("colour f", x.colourMask('f'), 1L << 63);
         CHECKS.equal("colour c", x.colourMask('c'), 0L);
+        x.place(4, 0, 0);
+        CHECKS.equal("colour a in the corner", x.colourMask('a'), 1L | 1L << 27 | 1L << 35);
         for (char colour : new char[] {'`', 'g', 'A', 0, (char) 65535}) {
             CHECKS.fails("colour " + (int) colour, IllegalArgumentException.class, x, () -> x.colourMask(colour));
         }

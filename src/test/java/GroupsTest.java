@@ -9,6 +9,8 @@ public final class GroupsTest {
         promises36To40Example();
         promises36To40Snake();
         promises36To40Ring();
+        promise37OnceMore();
+        promise40FirstFragment();
         promises38And39WrongArguments();
         promise40NothingPlaced();
         promises41And42Fractions();
@@ -94,6 +96,34 @@ public final class GroupsTest {
         CHECKS.equal("ring: groupCountByUnions", x.groupCountByUnions(), 1);
         CHECKS.equal("ring: groupSize", x.groupSize(2), 4);
         CHECKS.equal("ring: joins", x.joinCount(), 4);
+    }
+
+    /** The sets of one call are of no account for the next. */
+    private static void promise37OnceMore() {
+        MosaicCatalogue x = new MosaicCatalogue();
+        x.addFragment('a', 0, 0, 15, 15);
+        x.addFragment('a', 0, 0, 1, 1);
+        x.addFragment('a', 1, 15, 14, 0);
+        x.addFragment('a', 0, 0, 0, 0);
+        x.place(0, 0, 1);
+        x.place(1, 0, 0);
+        x.place(2, 1, 0);
+        x.place(3, 1, 1);
+        for (int turn = 0; turn < 4; turn++) {
+            for (int other = 0; other < 4; other++) {
+                x.setTurn(1, turn);
+                x.setTurn(2, other);
+                CHECKS.equal("turns " + turn + ", " + other, x.groupCountByUnions(), x.groupCount());
+                CHECKS.equal("consistent " + turn + ", " + other, x.isConsistent(), true);
+            }
+        }
+    }
+
+    private static void promise40FirstFragment() {
+        MosaicCatalogue x = checkered(1);
+        x.place(0, 0, 0);
+        CHECKS.equal("fragment 0 alone", x.largestGroup(), 1);
+        CHECKS.equal("one group", x.groupCount(), 1);
     }
 
     private static void promises38And39WrongArguments() {

@@ -87,6 +87,8 @@ public final class GuessesTest {
         CHECKS.equal("the greatest of the later ones", x.bestTurn(8, 4, 4), 2);
         x.addFragment('e', 7, 0, 0, 0);
         CHECKS.equal("turn 3", x.bestTurn(9, 4, 4), 3);
+        x.addFragment('e', 13, 7, 0, 14);
+        CHECKS.equal("between a smaller and a greater one", x.bestTurn(10, 4, 4), 1);
     }
 
     private static void promise33WrongArguments() {
@@ -133,6 +135,13 @@ public final class GuessesTest {
             CHECKS.equal("rank " + rank + " without a side", x.guessByWeight(4, 4, rank), later[rank]);
         }
         CHECKS.fails("no rank 5", NoSuchElementException.class, x, () -> x.guessByWeight(4, 4, 5));
+        MosaicCatalogue y = new MosaicCatalogue();
+        y.addFragment('a', 15, 15, 15, 15);
+        y.addFragment('b', 0, 0, 0, 0);
+        y.addFragment('c', 1, 1, 1, 1);
+        y.place(1, 0, 0);
+        CHECKS.equal("fragment 0 is first", y.guessByWeight(0, 1, 0), 0);
+        CHECKS.equal("the one behind it", y.guessByWeight(0, 1, 1), 2);
     }
 
     private static void promises34And35WrongArguments() {

@@ -16,6 +16,8 @@ public final class PlacingTest {
         promise18PlaceGuess();
         promise18WrongArguments();
         promise19FillChoosesGap();
+        promise19FillAroundCellZero();
+        promise19FillLeavesTakenCells();
         promise19FillEnds();
         promise19FillTheTray();
         CHECKS.finish("PlacingTest");
@@ -198,6 +200,30 @@ public final class PlacingTest {
         CHECKS.equal("all its turns are alike", x.turn(4), 0);
         CHECKS.equal("nothing is left", x.fill(), 0);
         CHECKS.equal("a fill of none is a change", x.undoCount(), 8);
+    }
+
+    private static void promise19FillAroundCellZero() {
+        MosaicCatalogue x = new MosaicCatalogue();
+        x.addFragment('a', 15, 15, 15, 15);
+        x.addFragment('b', 0, 0, 0, 0);
+        x.place(1, 0, 1);
+        CHECKS.equal("fragment 0 is placed", x.fill(), 1);
+        CHECKS.equal("on cell 0", x.cell(0), 0);
+    }
+
+    /** The cell 1 would have the greatest weight, but it is taken. */
+    private static void promise19FillLeavesTakenCells() {
+        MosaicCatalogue x = new MosaicCatalogue();
+        x.addFragment('a', 15, 15, 15, 15);
+        x.addFragment('a', 15, 15, 15, 15);
+        x.addFragment('b', 3, 3, 3, 3);
+        x.addFragment('c', 0, 0, 0, 0);
+        x.place(0, 0, 0);
+        x.place(1, 0, 2);
+        x.place(2, 0, 1);
+        CHECKS.equal("one is placed", x.fill(), 1);
+        CHECKS.equal("beside it", x.cell(3), 3);
+        CHECKS.equal("2 keeps its cell", x.fragmentAt(0, 1), 2);
     }
 
     private static void promise19FillEnds() {

@@ -1,4 +1,4 @@
-import java.util.function.Supplier;
+import java.util.function.Function;
 
 /** Promises 52 to 55: undo and the saved state. */
 public final class UndoTest {
@@ -34,30 +34,31 @@ public final class UndoTest {
         return Checks.picture(x).replaceAll("undo \\d+", "");
     }
 
-    private static void undoes(String what, MosaicCatalogue x, Supplier<?> change) {
+    private static void undoes(String what, MosaicCatalogue x, Function<MosaicCatalogue, ?> change) {
         String before = state(x);
         int count = x.undoCount();
-        change.get();
+        change.apply(x);
         CHECKS.equal(what + " is a change", x.undoCount(), count + 1);
         CHECKS.equal(what + " is undone", x.undo(), count);
         CHECKS.equal(what + " leaves nothing", state(x), before);
     }
 
     private static void promise52EachChange() {
-        MosaicCatalogue x = example();
-        undoes("addFragment", x, () -> x.addFragment('d', 1, 2, 3, 4));
-        undoes("removeFragment", x, () -> x.removeFragment(2));
-        undoes("place", x, () -> x.place(2, 7, 7));
-        undoes("takeBack", x, () -> x.takeBack(0));
-        undoes("setTurn", x, () -> x.setTurn(0, 3));
-        undoes("setTurn to the same", x, () -> x.setTurn(2, 1));
-        undoes("swap", x, () -> x.swap(0, 1));
-        undoes("placeGuess", x, () -> x.placeGuess(0, 1));
-        x.takeBack(1);
-        undoes("fill", x, x::fill);
-        x.undo();
-        Checks.feed(x, "take 0;put 2@55;new a0000;drop 3");
-        undoes("execute", x, x::execute);
+        undoes("addFragment", example(), x -> x.addFragment('d', 1, 2, 3, 4));
+        undoes("removeFragment", example(), x -> x.removeFragment(2));
+        undoes("place", example(), x -> x.place(2, 7, 7));
+        undoes("takeBack", example(), x -> x.takeBack(0));
+        undoes("setTurn", example(), x -> x.setTurn(0, 3));
+        undoes("setTurn to the same", example(), x -> x.setTurn(2, 1));
+        undoes("swap", example(), x -> x.swap(0, 1));
+        undoes("placeGuess", example(), x -> x.placeGuess(0, 1));
+        MosaicCatalogue filled = example();
+        filled.takeBack(1);
+        undoes("fill", filled, x -> x.fill());
+        undoes("fill of none", new MosaicCatalogue(), x -> x.fill());
+        MosaicCatalogue fed = example();
+        Checks.feed(fed, "take 0;put 2@55;new a0000;drop 3");
+        undoes("execute", fed, x -> x.execute());
     }
 
     private static void promise52EightChanges() {
@@ -199,6 +200,13 @@ public final class UndoTest {
         CHECKS.equal("nothing is a state too", empty.restore(), 0);
         CHECKS.equal("no fragment is left", empty.exists(0), false);
         CHECKS.equal("the first id again", empty.addFragment('a', 0, 0, 0, 0), 0);
+        empty.setTurn(0, 3);
+        empty.place(0, 4, 4);
+        empty.restore();
+        empty.addFragment('b', 0, 0, 0, 0);
+        CHECKS.equal("a new one is in the tray", empty.isPlaced(0), false);
+        CHECKS.equal("a new one is not turned", empty.turn(0), 0);
+        CHECKS.equal("the grid is empty", empty.placedMask(), 0L);
     }
 
     private static void promise55SavedTwice() {
