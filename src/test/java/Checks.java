@@ -1,7 +1,14 @@
+import java.lang.reflect.Method;
+import java.util.ArrayList;
+import java.util.Comparator;
+import java.util.List;
 import java.util.function.Supplier;
+import java.util.regex.Matcher;
+import java.util.regex.Pattern;
 
 /** Counts the checks of one test class and tells each that went wrong. */
 final class Checks {
+    private static final Pattern PROMISE = Pattern.compile("promise(\\d+)\\D.*");
     private int made;
     private int wrong;
 
@@ -13,11 +20,18 @@ final class Checks {
         }
     }
 
-    /** Checks that a call throws exactly this exception and that nothing of the catalogue changes by it. */
+    /**
+     * Checks that a call throws exactly this exception and that what can be told in few calls stays as it was, so
+     * that an object can be asked often within its 512 calls; Twins look at everything.
+     */
     void fails(String what, Class<? extends RuntimeException> want, MosaicCatalogue catalogue, Supplier<?> call) {
-        String before = picture(catalogue);
+        String before = glance(catalogue);
         equal(what, outcome(call), want.getSimpleName());
-        equal(what + " changes nothing", picture(catalogue), before);
+        equal(what + " changes nothing", glance(catalogue), before);
+    }
+
+    private static String glance(MosaicCatalogue catalogue) {
+        return catalogue.fragmentCount() + " " + catalogue.placedMask() + " " + catalogue.undoCount();
     }
 
     /** The answer of a call, or the simple name of the exception that it throws. */
@@ -29,21 +43,18 @@ final class Checks {
         }
     }
 
-    /** All that can be read of a catalogue without changing it. */
+    /** All that can be read of the fragments, the history and the output without changing them. */
     static String picture(MosaicCatalogue catalogue) {
         StringBuilder text = new StringBuilder();
-        for (int id = 0; id < 600; id++) {
-            if (catalogue.exists(id)) {
-                text.append(id).append(catalogue.colour(id)).append(catalogue.turn(id)).append('/');
-                for (int side = 0; side < 4; side++) {
-                    text.append(catalogue.edge(id, side)).append(',');
-                }
-                text.append(catalogue.isPlaced(id) ? catalogue.cell(id) : -1).append(';');
-            }
+        int trayCount = catalogue.trayCount();
+        for (int position = 0; position < trayCount; position++) {
+            describe(catalogue, catalogue.inTray(position), text);
         }
-        for (int row = 0; row < 8; row++) {
-            for (int column = 0; column < 8; column++) {
-                text.append(catalogue.isEmpty(row, column) ? "." : "" + catalogue.fragmentAt(row, column));
+        long placed = catalogue.placedMask();
+        for (int cell = 0; cell < 64; cell++) {
+            if ((placed >>> cell & 1) == 1) {
+                text.append('@').append(cell).append(':');
+                describe(catalogue, catalogue.fragmentAt(cell / 8, cell % 8), text);
             }
         }
         text.append(" undo ").append(catalogue.undoCount());
@@ -53,9 +64,17 @@ final class Checks {
         return text.toString();
     }
 
+    private static void describe(MosaicCatalogue catalogue, int id, StringBuilder text) {
+        text.append(id).append(catalogue.colour(id)).append(catalogue.turn(id)).append('/');
+        for (int side = 0; side < 4; side++) {
+            text.append(catalogue.edge(id, side)).append(',');
+        }
+        text.append(catalogue.isPlaced(id) ? catalogue.cell(id) : -1).append(';');
+    }
+
     static String output(MosaicCatalogue catalogue) {
         StringBuilder text = new StringBuilder();
-        for (int index = 0; index < 100; index++) {
+        for (int index = 0; index < 9; index++) {
             Object sign = outcome(after(catalogue, index));
             if (!(sign instanceof Character)) {
                 break;
@@ -78,6 +97,32 @@ final class Checks {
     static Object execute(MosaicCatalogue catalogue, String text) {
         feed(catalogue, text);
         return outcome(catalogue::execute);
+    }
+
+    /** Runs each static method of a class whose name begins with promise, by the promises' numbers. */
+    void runPromises(Class<?> tests) throws ReflectiveOperationException {
+        List<Method> methods = new ArrayList<>();
+        for (Method method : tests.getDeclaredMethods()) {
+            if (PROMISE.matcher(method.getName()).matches()) {
+                methods.add(method);
+            }
+        }
+        methods.sort(Comparator.comparingInt(Checks::promiseOf).thenComparing(Method::getName));
+        for (Method method : methods) {
+            int wrongBefore = wrong;
+            method.setAccessible(true);
+            method.invoke(null);
+            if (wrong > wrongBefore) {
+                System.out.println("WRONG: " + method.getName());
+            }
+        }
+        System.out.println(methods.size() + " tests");
+        finish(tests.getSimpleName());
+    }
+
+    private static int promiseOf(Method method) {
+        Matcher name = PROMISE.matcher(method.getName());
+        return name.matches() ? Integer.parseInt(name.group(1)) : 0;
     }
 
     void finish(String name) {

@@ -475,7 +475,11 @@ final class Model {
         return input.length();
     }
 
-    private static int errorPositionOf(String text) {
+    static boolean isWellFormed(String text) {
+        return TEXT.matcher(text).matches();
+    }
+
+    static int errorPositionOf(String text) {
         for (int length = 1; length <= text.length(); length++) {
             Matcher matcher = TEXT.matcher(text.substring(0, length));
             if (!matcher.matches() && !matcher.hitEnd()) {
@@ -488,7 +492,7 @@ final class Model {
     int execute() {
         String text = input;
         input = "";
-        if (!TEXT.matcher(text).matches()) {
+        if (!isWellFormed(text)) {
             errorPosition = errorPositionOf(text);
             throw new IllegalArgumentException();
         }
