@@ -47,11 +47,11 @@ final class Examples {
         x.setTurn(2, 1);
         x.setTurn(1, 2);
         x.place(3, 4, 3);
-        x.place(4, 7, 7);
-        x.setTurn(1, 2);
         Checks.execute(x, "take ?");
         Checks.execute(x, "fill;drop 0");
         x.writeFragment(0);
+        x.place(4, 7, 7);
+        x.setTurn(1, 2);
         return x;
     }
 

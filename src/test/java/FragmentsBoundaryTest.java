@@ -228,6 +228,32 @@ public final class FragmentsBoundaryTest {
         CHECKS.equal("the grid", x.placedMask(), 0L);
     }
 
+    private static void promise2TurnIsInitially0AfterAnotherWasRemoved() {
+        for (int removed = 0; removed < 3; removed++) {
+            MosaicCatalogue x = Examples.checkered(3);
+            x.setTurn(0, 1);
+            x.setTurn(1, 2);
+            x.setTurn(2, 3);
+            x.removeFragment(removed);
+            x.addFragment('f', 1, 2, 3, 4);
+            CHECKS.equal("without " + removed, x.turn(3), 0);
+            CHECKS.equal("its north", x.edge(3, 0), 1);
+        }
+    }
+
+    private static void promise2TurnIsInitially0AfterRestore() {
+        MosaicCatalogue x = new MosaicCatalogue();
+        x.save();
+        x.addFragment('a', 1, 2, 3, 4);
+        x.setTurn(0, 3);
+        x.place(0, 0, 0);
+        x.restore();
+        CHECKS.equal("the id", x.addFragment('b', 5, 6, 7, 8), 0);
+        CHECKS.equal("the turn", x.turn(0), 0);
+        CHECKS.equal("the place", x.isPlaced(0), false);
+        CHECKS.equal("the west", x.edge(0, 3), 8);
+    }
+
     private static void promise3NoSuchFragment() {
         for (int id : NO_IDS) {
             RICH.refuses("remove " + id, NoSuchElementException.class, x -> x.removeFragment(id));

@@ -137,6 +137,17 @@ public final class GridBoundaryTest {
         gapsAre("cell 63", Examples.alike(0, 0, 0, 0, 63), 55, 62);
     }
 
+    private static void promise24CornersAreGaps() {
+        gapsAre("cell 1", Examples.alike(0, 0, 0, 0, 1), 0, 2, 9);
+        gapsAre("cell 8", Examples.alike(0, 0, 0, 0, 8), 0, 9, 16);
+        gapsAre("cell 6", Examples.alike(0, 0, 0, 0, 6), 5, 7, 14);
+        gapsAre("cell 15", Examples.alike(0, 0, 0, 0, 15), 7, 14, 23);
+        gapsAre("cell 48", Examples.alike(0, 0, 0, 0, 48), 40, 49, 56);
+        gapsAre("cell 57", Examples.alike(0, 0, 0, 0, 57), 49, 56, 58);
+        gapsAre("cell 55", Examples.alike(0, 0, 0, 0, 55), 47, 54, 63);
+        gapsAre("cell 62", Examples.alike(0, 0, 0, 0, 62), 54, 61, 63);
+    }
+
     private static void promise24BordersHaveThreeNeighbours() {
         gapsAre("north", Examples.alike(0, 0, 0, 0, 3), 2, 4, 11);
         gapsAre("east", Examples.alike(0, 0, 0, 0, 31), 23, 30, 39);
@@ -230,6 +241,32 @@ public final class GridBoundaryTest {
             CHECKS.equal("joins of " + pair[0] + " and " + pair[1], x.joinCount(), 0);
             CHECKS.equal("clashes of " + pair[0] + " and " + pair[1], x.clashCount(), 0);
         }
+    }
+
+    /** One is placed beside where a fragment without a cell might be looked for. */
+    private static void promise27FragmentsInTheTrayAreNoPart() {
+        for (int cell : new int[] {0, 7, 8, 56, 63}) {
+            MosaicCatalogue x = Examples.checkered(20);
+            x.place(19, cell / 8, cell % 8);
+            CHECKS.equal("joins of one on " + cell, x.joinCount(), 0);
+            CHECKS.equal("clashes of one on " + cell, x.clashCount(), 0);
+            x.takeBack(19);
+            x.place(0, cell / 8, cell % 8);
+            CHECKS.equal("joins of the first on " + cell, x.joinCount(), 0);
+            CHECKS.equal("clashes of the first on " + cell, x.clashCount(), 0);
+        }
+    }
+
+    private static void promise27FragmentsBehindThoseInTheTray() {
+        MosaicCatalogue x = Examples.checkered(5);
+        x.place(2, 0, 0);
+        x.place(3, 0, 1);
+        x.place(4, 1, 1);
+        CHECKS.equal("two joins", x.joinCount(), 2);
+        x.takeBack(3);
+        CHECKS.equal("no joins", x.joinCount(), 0);
+        x.place(0, 0, 1);
+        CHECKS.equal("two clashes", x.clashCount(), 2);
     }
 
     private static void promise28From0To31() {

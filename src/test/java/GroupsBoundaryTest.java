@@ -58,6 +58,23 @@ public final class GroupsBoundaryTest {
         CHECKS.equal("two that join", chain(2, 1).groupCount(), 1);
     }
 
+    /** The ids of two groups take turns, so that no group is met at one stretch. */
+    private static MosaicCatalogue twoGroups() {
+        MosaicCatalogue x = Examples.checkered(12);
+        int[] cells = {0, 63, 62, 1, 2, 61, 60, 3, 4, 59, 58, 5};
+        for (int id = 0; id < 12; id++) {
+            x.place(id, cells[id] / 8, cells[id] % 8);
+        }
+        return x;
+    }
+
+    private static void promise36GroupsWhoseIdsTakeTurns() {
+        CHECKS.equal("two", twoGroups().groupCount(), 2);
+        CHECKS.equal("two by unions", twoGroups().groupCountByUnions(), 2);
+        CHECKS.equal("six cells each", twoGroups().groupMask(0), 63L);
+        CHECKS.equal("the largest", twoGroups().largestGroup(), 6);
+    }
+
     private static void promise37NoGroups() {
         FRESH.answers("a new object", 0, x -> x.groupCountByUnions());
         FULL_TRAY.answers("an empty grid", 0, x -> x.groupCountByUnions());
@@ -78,6 +95,24 @@ public final class GroupsBoundaryTest {
         CHECKS.equal("cells 55 and 63", Examples.alike(15, 0, 0, 0, 55, 63).groupCountByUnions(), 1);
         CHECKS.equal("cells 7 and 8", Examples.alike(0, 15, 0, 0, 7, 8).groupCountByUnions(), 2);
         CHECKS.equal("cells 0 and 56", Examples.alike(15, 0, 0, 0, 0, 56).groupCountByUnions(), 2);
+    }
+
+    /** The sets that a call unites are of no account for the next. */
+    private static void promise37AskedAgainAfterAChange() {
+        MosaicCatalogue x = new MosaicCatalogue();
+        x.place(x.addFragment('a', 0, 0, 0, 0), 0, 0);
+        x.place(x.addFragment('a', 15, 15, 15, 15), 0, 1);
+        x.place(x.addFragment('a', 0, 0, 0, 0), 1, 1);
+        x.place(x.addFragment('a', 3, 15, 3, 3), 1, 0);
+        CHECKS.equal("joined around three corners", x.groupCountByUnions(), 1);
+        CHECKS.equal("once more", x.groupCountByUnions(), 1);
+        x.setTurn(3, 1);
+        CHECKS.equal("3 is turned away", x.groupCountByUnions(), 2);
+        x.takeBack(1);
+        CHECKS.equal("and 1 is taken back", x.groupCountByUnions(), 3);
+        x.undo();
+        x.undo();
+        CHECKS.equal("as it was", x.groupCountByUnions(), 1);
     }
 
     private static void promise38NoSuchFragment() {

@@ -238,6 +238,43 @@ public final class GuessesBoundaryTest {
         NINETEEN.answers("of ten that fit, in the north", 1, x -> x.bestGuess(6, 7));
     }
 
+    private static void promise34ItsBestTurnCounts() {
+        for (int number = 0; number < 4; number++) {
+            MosaicCatalogue x = Examples.alike(0, 1, 0, 0, 0);
+            x.addFragment('b', 3, 3, 3, 3);
+            int[] edges = {3, 3, 3, 3};
+            edges[number] = 14;
+            x.addFragment('b', edges[0], edges[1], edges[2], edges[3]);
+            x.addFragment('c', 3, 3, 3, 3);
+            CHECKS.equal("edge " + number + " fits", x.bestGuess(0, 1), 2);
+            CHECKS.equal("edge " + number + " fits: first", x.guessByWeight(0, 1, 0), 2);
+            CHECKS.equal("edge " + number + " fits: second", x.guessByWeight(0, 1, 1), 1);
+            CHECKS.equal("edge " + number + " fits: third", x.guessByWeight(0, 1, 2), 3);
+        }
+    }
+
+    /** Fragment 0 is the one that is in the tray, and its weight counts from the first edge to the last. */
+    private static void promise34TheFirstFragment() {
+        MosaicCatalogue x = Examples.checkered(3);
+        x.place(1, 7, 7);
+        CHECKS.equal("0 and 2 are alike", x.bestGuess(7, 6), 0);
+        CHECKS.equal("the second", x.guessByWeight(7, 6, 1), 2);
+        x.undo();
+        x.place(0, 7, 7);
+        CHECKS.equal("1 is greater", x.bestGuess(7, 6), 1);
+        x.undo();
+        x.place(2, 7, 7);
+        CHECKS.equal("1 is greater than 0", x.bestGuess(7, 6), 1);
+        CHECKS.equal("0 is the second", x.guessByWeight(7, 6, 1), 0);
+    }
+
+    private static void promise34TheGapOnTheFirstCell() {
+        MosaicCatalogue x = Examples.alike(0, 0, 0, 0, 1, 8);
+        x.addFragment('b', 15, 0, 0, 0);
+        x.addFragment('b', 0, 15, 15, 0);
+        CHECKS.equal("two edges fit", x.bestGuess(0, 0), 3);
+    }
+
     private static void promise35RowIsNotFrom0To7() {
         for (int row : Examples.NO_LINES) {
             RICH.refuses("row " + row, IndexOutOfBoundsException.class, x -> x.guessByWeight(row, 3, 0));

@@ -5,6 +5,8 @@ public final class ModelTest {
     private static final Checks CHECKS = new Checks();
     private static final int RUNS = 1500;
     private static final int MOST_CALLS = 512;
+    // A text of commands, fed sign by sign, and then the whole grid.
+    private static final int LAST_CALLS = 115;
     private static final int[] PATTERNS = {0, 15, 5, 10, 0, 15, 3, 12, 1, 14};
     private static final int[] STRANGE = {-1, 8, 20, 100, Integer.MIN_VALUE, Integer.MAX_VALUE};
 
@@ -83,7 +85,7 @@ public final class ModelTest {
         for (int add = 0; add < adds; add++) {
             addFragment();
         }
-        while (calls < MOST_CALLS - 70) {
+        while (calls < MOST_CALLS - LAST_CALLS) {
             int kind = below(10);
             if (kind < 4) {
                 change();

@@ -409,6 +409,45 @@ public final class PlacingBoundaryTest {
         CHECKS.equal("east before south", z.cell(1), 28);
     }
 
+    private static void promise19TheFirstAndTheLastCell() {
+        MosaicCatalogue x = Examples.alike(0, 0, 0, 0, 1);
+        x.addFragment('b', 15, 15, 15, 15);
+        x.fill();
+        CHECKS.equal("cell 0", x.cell(1), 0);
+        MosaicCatalogue y = Examples.alike(3, 0, 3, 3, 62);
+        y.addFragment('b', 15, 15, 15, 15);
+        y.fill();
+        CHECKS.equal("cell 63", y.cell(1), 63);
+    }
+
+    private static void promise19ATakenCellIsNoGap() {
+        MosaicCatalogue x = Examples.alike(0, 0, 0, 0, 0, 2, 9);
+        x.place(x.addFragment('b', 3, 3, 3, 3), 0, 1);
+        x.addFragment('c', 15, 15, 15, 15);
+        CHECKS.equal("one is placed", x.fill(), 1);
+        CHECKS.equal("not where three edges would fit", x.fragmentAt(0, 1), 3);
+        CHECKS.equal("but beside", x.cell(4), 8);
+    }
+
+    private static void promise19TheFirstFragment() {
+        MosaicCatalogue x = Examples.checkered(2);
+        x.place(1, 7, 7);
+        CHECKS.equal("0 is placed", x.fill(), 1);
+        CHECKS.equal("north of it", x.cell(0), 55);
+    }
+
+    private static void promise19EachBestTurnFrom0To3() {
+        for (int number = 0; number < 4; number++) {
+            MosaicCatalogue x = Examples.alike(3, 3, 1, 3, 0);
+            int[] edges = {3, 3, 3, 3};
+            edges[number] = 14;
+            x.addFragment('b', edges[0], edges[1], edges[2], edges[3]);
+            CHECKS.equal("edge " + number + " fits", x.fill(), 1);
+            CHECKS.equal("edge " + number + ": cell", x.cell(1), 8);
+            CHECKS.equal("edge " + number + ": turn", x.turn(1), (4 - number) % 4);
+        }
+    }
+
     private static void promise19TheGreatestWeightBeforeTheSmallestCell() {
         MosaicCatalogue x = Examples.alike(0, 0, 0, 0, 0, 61, 63);
         x.addFragment('b', 15, 15, 15, 15);

@@ -23,12 +23,12 @@ public final class UndoBoundaryTest {
         x.addFragment('c', 7, 7, 7, 7);
         x.save();
         x.place(0, 0, 0);
-        x.place(1, 7, 7);
-        x.setTurn(2, 3);
         x.writeRow(0);
         Checks.execute(x, "put 2");
         Checks.execute(x, "fill;take 9");
         Checks.feed(x, "fil");
+        x.place(1, 7, 7);
+        x.setTurn(2, 3);
         return x;
     }
 
