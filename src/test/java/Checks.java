@@ -1,3 +1,4 @@
+import java.lang.reflect.InvocationTargetException;
 import java.lang.reflect.Method;
 import java.util.ArrayList;
 import java.util.Comparator;
@@ -100,7 +101,7 @@ final class Checks {
     }
 
     /** Runs each static method of a class whose name begins with promise, by the promises' numbers. */
-    void runPromises(Class<?> tests) throws ReflectiveOperationException {
+    void runPromises(Class<?> tests) throws IllegalAccessException {
         List<Method> methods = new ArrayList<>();
         for (Method method : tests.getDeclaredMethods()) {
             if (PROMISE.matcher(method.getName()).matches()) {
@@ -109,15 +110,25 @@ final class Checks {
         }
         methods.sort(Comparator.comparingInt(Checks::promiseOf).thenComparing(Method::getName));
         for (Method method : methods) {
-            int wrongBefore = wrong;
-            method.setAccessible(true);
-            method.invoke(null);
-            if (wrong > wrongBefore) {
-                System.out.println("WRONG: " + method.getName());
-            }
+            runPromise(method);
         }
         System.out.println(methods.size() + " tests");
         finish(tests.getSimpleName());
+    }
+
+    /** A test that is ended by an exception is wrong, and the others are run all the same. */
+    private void runPromise(Method method) throws IllegalAccessException {
+        int wrongBefore = wrong;
+        method.setAccessible(true);
+        try {
+            method.invoke(null);
+        } catch (InvocationTargetException thrown) {
+            wrong++;
+            thrown.getCause().printStackTrace(System.out);
+        }
+        if (wrong > wrongBefore) {
+            System.out.println("WRONG: " + method.getName());
+        }
     }
 
     private static int promiseOf(Method method) {

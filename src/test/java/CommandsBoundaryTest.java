@@ -10,7 +10,7 @@ public final class CommandsBoundaryTest {
     private static final Twins READY = new Twins(CHECKS, Examples::ready);
     private static final Twins FULL_INPUT = new Twins(CHECKS, Examples::fullInput);
 
-    public static void main(String[] arguments) throws ReflectiveOperationException {
+    public static void main(String[] arguments) throws IllegalAccessException {
         CHECKS.runPromises(CommandsBoundaryTest.class);
     }
 

@@ -10,7 +10,7 @@ public final class FragmentsBoundaryTest {
     // In Examples.rich: 5 was removed, 7 is the id that is given next.
     private static final int[] NO_IDS = {-1, 5, 7, 8, 20, 64, Integer.MIN_VALUE, Integer.MAX_VALUE, 1 << 16};
 
-    public static void main(String[] arguments) throws ReflectiveOperationException {
+    public static void main(String[] arguments) throws IllegalAccessException {
         CHECKS.runPromises(FragmentsBoundaryTest.class);
     }
 

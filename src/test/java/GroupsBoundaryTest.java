@@ -12,7 +12,7 @@ public final class GroupsBoundaryTest {
     private static final int[] NO_IDS = {-1, 5, 7, 8, 20, 64, Integer.MIN_VALUE, Integer.MAX_VALUE, 1 << 16};
     private static final int[] CHAIN = {0, 1, 2, 3, 4, 5, 6, 7, 15, 23, 31, 39, 38, 37, 36, 35, 34, 33, 32, 40};
 
-    public static void main(String[] arguments) throws ReflectiveOperationException {
+    public static void main(String[] arguments) throws IllegalAccessException {
         CHECKS.runPromises(GroupsBoundaryTest.class);
     }
 

@@ -12,7 +12,7 @@ public final class GuessesBoundaryTest {
     private static final int[] NO_IDS = {-1, 5, 7, 8, 20, 64, Integer.MIN_VALUE, Integer.MAX_VALUE, 1 << 16};
     private static final int[] AROUND_27 = {19, 28, 35, 26};
 
-    public static void main(String[] arguments) throws ReflectiveOperationException {
+    public static void main(String[] arguments) throws IllegalAccessException {
         CHECKS.runPromises(GuessesBoundaryTest.class);
     }
 

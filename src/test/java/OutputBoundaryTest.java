@@ -9,7 +9,7 @@ public final class OutputBoundaryTest {
     // In Examples.rich: 5 was removed, 7 is the id that is given next; the output is "a1248@33".
     private static final int[] NO_IDS = {-1, 5, 7, 8, 20, 64, Integer.MIN_VALUE, Integer.MAX_VALUE, 1 << 16};
 
-    public static void main(String[] arguments) throws ReflectiveOperationException {
+    public static void main(String[] arguments) throws IllegalAccessException {
         CHECKS.runPromises(OutputBoundaryTest.class);
     }
 

@@ -11,7 +11,7 @@ public final class UndoBoundaryTest {
     private static final Twins RICH = new Twins(CHECKS, Examples::rich);
     private static final Twins FEW = new Twins(CHECKS, UndoBoundaryTest::fewChanges);
 
-    public static void main(String[] arguments) throws ReflectiveOperationException {
+    public static void main(String[] arguments) throws IllegalAccessException {
         CHECKS.runPromises(UndoBoundaryTest.class);
     }
 
